@@ -1242,8 +1242,8 @@ public final class NineKeys {
         private final int[] choices = new int[MOST_TEXT * KINDS];
         private final int[] presses = new int[KINDS];
         // By the kind ahead: the least spent from a word on, and from the next one on.
-        private int[] fromHere = new int[KINDS];
-        private int[] fromNext = new int[KINDS];
+        private final int[] fromHere = new int[KINDS];
+        private final int[] fromNext = new int[KINDS];
 
         /** All words of the text must be there. */
         void fill(Row text, Shelf shelf) {
@@ -1252,9 +1252,7 @@ public final class NineKeys {
             for (int i = text.size() - 1; i >= 0; i--) {
                 shelf.weigh(text.at(i - 1));
                 shelf.countPresses(text.at(i), presses);
-                int[] done = fromNext;
-                fromNext = fromHere;
-                fromHere = done;
+                System.arraycopy(fromHere, 0, fromNext, 0, KINDS);
                 for (int ahead = 0; ahead < KINDS; ahead++) {
                     choose(i, ahead);
                 }

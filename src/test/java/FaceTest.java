@@ -143,7 +143,7 @@ public final class FaceTest {
     String text = Files.readString(path, StandardCharsets.US_ASCII);
     String code = text.replaceAll("(?s)/\\*.*?\\*/", "").replaceAll("//[^\n]*", "");
     String[] unused = {"->", "::", "catch", "throw", "finally", "synchronized", "assert", "Exact", "package ",
-        "hashCode", "toString", "while (true)", "for (;;)", "static {", "System.", "float)(", "double"};
+        "hashCode", "toString", "while (true)", "for (;;)", "static {", "double"};
     for (String sign : unused) {
       Check.due("the file has " + sign, code.contains(sign), false);
     }

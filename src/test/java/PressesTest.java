@@ -5,6 +5,8 @@ public final class PressesTest {
     costByLatest();
     costByShorter();
     fewest();
+    fewestByPairs();
+    fewestWithAGoneWord();
     plan();
     planAtTheMost();
     taps();
@@ -12,7 +14,9 @@ public final class PressesTest {
     bestOfMany();
     swap();
     swapOfEquals();
+    swapOfMany();
     clash();
+    clashAfterDeal();
     Check.finish();
   }
 
@@ -94,6 +98,41 @@ public final class PressesTest {
     Check.due("clock", x.many(7), 2);
     x.drop(0);
     Check.due("one is gone", x.fewest(), NineKeys.STATE);
+  }
+
+  private static void fewestByPairs() {
+    NineKeys x = new NineKeys();
+    Check.add(x, "c", 5);
+    Check.add(x, "b", 6);
+    x.pair(0, 0, 100);
+    x.put(0);
+    x.put(0);
+    x.put(1);
+    Check.due("each behind the one ahead of it", x.fewest(), 1 + 3 + 2 + 3);
+    for (int i = 0; i < 3; i++) {
+      Check.due("kind " + i, x.plan(i), 1);
+    }
+    x.share(0);
+    Check.due("without pairs", x.fewest(), 1 + 3 + 3 + 2);
+  }
+
+  private static void fewestWithAGoneWord() {
+    NineKeys x = new NineKeys();
+    for (int n = 0; n < 3; n++) {
+      Check.add(x, Check.name(n), 1);
+      x.put(n);
+    }
+    for (int n = 0; n < 3; n++) {
+      Check.due("all are there", x.fewest() > 0, true);
+      x.drop(n);
+      Check.due("one is gone", x.fewest(), NineKeys.STATE);
+      Check.due("no plan", x.plan(0), -1);
+      x.wipe();
+      Check.add(x, Check.name(n), 1);
+      for (int w = 0; w < 3; w++) {
+        x.put(w <= n ? 3 + w : w);
+      }
+    }
   }
 
   private static void plan() {
@@ -224,6 +263,79 @@ public final class PressesTest {
     keysAre(x, swapped(new NineKeys(), 0, 3));
     Check.due("nothing more", x.swap(), 0);
     keysAre(x, swapped(new NineKeys(), 0, 3));
+  }
+
+  private static void swapOfMany() {
+    swapsByTrying("abcdefghij", "klmnopqrst", "uvwxyz", "z");
+    swapsByTrying("ab", "ac", "cab");
+    swapsByTrying("zy", "zz", "ye");
+    swapsByTrying("the", "cat", "sat", "on", "the", "mat", "with", "a", "rat");
+    NineKeys x = new NineKeys();
+    x.deal(0, 9);
+    x.deal(2, 5);
+    Check.add(x, "z", 1);
+    x.put(0);
+    Check.due("z comes to be alone", x.swap(), 2);
+    Check.due("its key", x.letter(25, 0), 1);
+    Check.due("the other key", x.letter(1, 0), 9);
+  }
+
+  /** Swaps until nothing is won any more, each time beside all changes of two keys tried by deal and taps. */
+  private static void swapsByTrying(String... words) {
+    NineKeys x = new NineKeys();
+    NineKeys y = new NineKeys();
+    for (String word : words) {
+      int w = Math.max(Check.add(x, word, 1), x.find());
+      Check.add(y, word, 1);
+      x.put(w);
+      y.put(w);
+    }
+    int won = 1;
+    for (int n = 0; n < 12 && won > 0; n++) {
+      won = swapByTrying(y);
+      Check.due(words[0] + ": swap " + n, x.swap(), won);
+      for (int l = 0; l < 26; l++) {
+        Check.due(words[0] + ": key of " + l, x.letter(l, 0), y.letter(l, 0));
+      }
+    }
+    Check.due(words[0] + ": an end", won, 0);
+  }
+
+  private static int swapByTrying(NineKeys y) {
+    int before = y.taps();
+    int least = before;
+    int bestA = 0;
+    int bestB = 0;
+    for (int a = 0; a < 26; a++) {
+      for (int b = a + 1; b < 26; b++) {
+        swapped(y, a, b);
+        if (y.taps() < least) {
+          least = y.taps();
+          bestA = a;
+          bestB = b;
+        }
+        swapped(y, a, b);
+      }
+    }
+    swapped(y, bestA, bestB);
+    return before - least;
+  }
+
+  private static void clashAfterDeal() {
+    for (int n = 0; n < 3; n++) {
+      NineKeys x = new NineKeys();
+      Check.add(x, "a", 1);
+      Check.add(x, "d", 1);
+      Check.due("no pairs", x.clashes(), 0);
+      x.deal(3, 1);
+      if (n == 0) {
+        Check.due("one pair", x.clashes(), 1);
+      } else if (n == 1) {
+        Check.due("two", x.clash(), 2);
+      } else {
+        Check.due("the second", x.clashing(1), 1);
+      }
+    }
   }
 
   private static void clash() {

@@ -13,6 +13,7 @@ public final class PressingTest {
     take();
     takeFull();
     third();
+    thirdOfAWordThatWasNew();
     thirdFull();
     thirdLetsGo();
     newcomer();
@@ -308,6 +309,18 @@ public final class PressingTest {
     x.drop(1);
     Check.due("second again", Check.third(x, "no"), 102);
     Check.due("third again", Check.third(x, "no"), 2);
+  }
+
+  private static void thirdOfAWordThatWasNew() {
+    NineKeys x = new NineKeys();
+    Check.third(x, "no");
+    Check.third(x, "no");
+    Check.due("added", Check.add(x, "no", 5), 0);
+    Check.due("learnt as a word", Check.third(x, "no"), 0);
+    Check.due("once alone", x.many(0), 1);
+    Check.due("count", x.word(0, 1), 6);
+    Check.spell(x, "no");
+    Check.due("newcomer all the same", x.newcomer(), 2);
   }
 
   private static void thirdFull() {
