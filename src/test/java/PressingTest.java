@@ -17,6 +17,7 @@ public final class PressingTest {
     thirdFull();
     thirdLetsGo();
     newcomer();
+    newcomerInAFreePlace();
     put();
     wipe();
     text();
@@ -398,6 +399,20 @@ public final class PressingTest {
     Check.due("3 went", x.newcomer(), 0);
     x.unspell();
     Check.due("none spelt", x.newcomer(), 0);
+  }
+
+  private static void newcomerInAFreePlace() {
+    NineKeys x = new NineKeys();
+    for (int n = 0; n < 8; n++) {
+      Check.third(x, Check.name(n));
+    }
+    Check.third(x, Check.name(4));
+    Check.due("4 comes", Check.third(x, Check.name(4)), 0);
+    Check.due("another in its place", Check.third(x, "zzz"), 101);
+    for (int n = 0; n < 8; n++) {
+      Check.spell(x, Check.name(n));
+      Check.due("newcomer " + n, x.newcomer(), n == 4 ? 0 : 1);
+    }
   }
 
   private static void put() {

@@ -259,6 +259,16 @@ public final class WordsTest {
     Check.due("untold", x.paired(0, 0), 0);
     x.pair(0, 0, 17);
     Check.due("told", x.paired(0, 0), 17);
+    Check.add(x, "b", 1);
+    x.pair(0, 1, 18);
+    x.pair(1, 0, 19);
+    x.pair(1, 1, 20);
+    x.pair(1, 0, 21);
+    x.pair(0, 1, 0);
+    Check.due("0 0", x.paired(0, 0), 17);
+    Check.due("0 1", x.paired(0, 1), 0);
+    Check.due("1 0", x.paired(1, 0), 21);
+    Check.due("1 1", x.paired(1, 1), 20);
     x.drop(0);
     Check.due("gone", x.paired(0, 0), 0);
   }
