@@ -447,12 +447,13 @@ public final class NineKeys {
     }
 
     private static boolean areBeside(int a, int b) {
-        if (!isKey(a) || !isKey(b)) {
+        int low = a < b ? a : b;
+        int high = a < b ? b : a;
+        if (low < 1 || high > KEYS) {
             return false;
         }
-        int down = Math.abs((a - 1) / KEYS_IN_A_ROW - (b - 1) / KEYS_IN_A_ROW);
-        int across = Math.abs((a - 1) % KEYS_IN_A_ROW - (b - 1) % KEYS_IN_A_ROW);
-        return down + across == 1;
+        boolean inOneRow = (low - 1) / KEYS_IN_A_ROW == (high - 1) / KEYS_IN_A_ROW;
+        return high - low == KEYS_IN_A_ROW || inOneRow && high - low == 1;
     }
 
     /** Why there are no offers by a kind; 0 if there may be some. */
@@ -1035,7 +1036,7 @@ public final class NineKeys {
         private final int[] rates = new int[MOST_WORDS];
         private final int[] behindLatest = new int[MOST_WORDS];
         private final int[] offered = new int[MOST_THERE];
-        private final int[] worths = new int[MOST_WORDS];
+        private final int[] worths = new int[MOST_THERE];
         private final int[] prices = new int[SLIPS];
         private int size;
         private int share = FIRST_SHARE;
@@ -1123,23 +1124,24 @@ public final class NineKeys {
                 if (book.isThere(w)) {
                     int asked = askedFor(w, row, kind, limit);
                     if (asked >= 0) {
-                        worths[w] = rates[w] - asked;
-                        insert(w);
+                        insert(w, rates[w] - asked);
                     }
                 }
             }
         }
 
-        private void insert(int w) {
-            if (size >= offered.length) {
+        private void insert(int w, int worth) {
+            if (size >= MOST_THERE) {
                 return;
             }
             int p = size;
-            while (p > 0 && standsAhead(w, worths[w], offered[p - 1], worths[offered[p - 1]])) {
+            while (p > 0 && standsAhead(w, worth, offered[p - 1], worths[p - 1])) {
                 offered[p] = offered[p - 1];
+                worths[p] = worths[p - 1];
                 p--;
             }
             offered[p] = w;
+            worths[p] = worth;
             size++;
         }
 

@@ -1,12 +1,12 @@
 import java.util.Random;
 
 /**
- * Random runs of 512 calls on NineKeys and on Model, which must answer alike. The seeds are fixed, so that each
+ * Random runs of some hundred calls on NineKeys and on Model, which must answer alike. The seeds are fixed, so that each
  * run of the test makes the same calls. A run has a mood: how many letters it uses, how long its words are.
  */
 public final class ModelTest {
   private static final int RUNS = 400;
-  private static final int CALLS = 512;
+  private static final int CALLS = 300;
 
   private final Random random;
   private final NineKeys x = new NineKeys();
@@ -16,6 +16,7 @@ public final class ModelTest {
   private final int longest;
   private final int pressWeight;
   private final boolean large;
+  private final boolean crowded;
   private int bests;
   private boolean unlike = false;
 
@@ -25,6 +26,7 @@ public final class ModelTest {
     longest = 1 + random.nextInt(random.nextInt(4) == 0 ? 10 : 4);
     pressWeight = 1 + random.nextInt(4);
     large = random.nextInt(4) == 0;
+    crowded = random.nextInt(4) == 0;
     bests = seed % 40 == 0 ? 2 : 0;
   }
 
@@ -47,7 +49,29 @@ public final class ModelTest {
     }
   }
 
+  /** Brings the run near to as many words, or as many pairs, as may be. */
+  private void crowd() {
+    int some = below(2) == 0 ? 30 + below(12) : 60 + below(20);
+    for (int n = 0; n < some; n++) {
+      same("unspell()", x.unspell(), model.unspell());
+      int a = n % letters;
+      int b = n / letters % letters;
+      int c = n / letters / letters;
+      same("spell(" + a + ", " + b + ", " + c + ", -1, 0)", x.spell(a, b, c, -1, 0), model.spell(a, b, c, -1, 0));
+      int count = someCount();
+      same("add(" + count + ")", x.add(count), model.add(count));
+    }
+    for (int n = 0; n < 140; n++) {
+      int v = someWord();
+      int w = someWord();
+      same("pair(" + v + ", " + w + ", 3)", x.pair(v, w, 3), model.pair(v, w, 3));
+    }
+  }
+
   private void go() {
+    if (crowded) {
+      crowd();
+    }
     for (int n = 0; n < CALLS && !unlike; n++) {
       call();
       if (n % 64 == 63 && !unlike) {
