@@ -2,6 +2,7 @@
 final class Check {
   private static int wrong = 0;
   private static int asked = 0;
+  private static String about = "";
 
   private Check() {
   }
@@ -10,8 +11,13 @@ final class Check {
     asked++;
     if (got != want) {
       wrong++;
-      System.out.println(call + " answered " + got + ", due is " + want);
+      System.out.println((about.isEmpty() ? "" : about + ": ") + call + " answered " + got + ", due is " + want);
     }
+  }
+
+  /** What the calls from here on are a test of. */
+  static void about(String words) {
+    about = words;
   }
 
   static void due(String call, boolean got, boolean want) {
