@@ -18,7 +18,7 @@ final class Doc {
     }
   }
 
-  /** "Terms", and "1" to "36" for the promises. */
+  /** "What it is", "Terms", and "1" to "36" for the promises. */
   private final Map<String, Part> parts = new LinkedHashMap<>();
 
   Doc(Path path) throws IOException {
@@ -26,8 +26,10 @@ final class Doc {
       String heading = part.lines().findFirst().orElse("");
       String words = part.substring(heading.length()).replace("```text", "").replace("```", "")
           .replaceAll("(?m)^\\d+\\. ", "").replaceAll("\\s+", " ").strip();
-      if (heading.equals("Terms")) {
-        parts.put("Terms", new Part(words.replaceAll("Ahead of the calls .*", "").strip()));
+      if (heading.equals("What it is")) {
+        parts.put(heading, new Part(words.replaceFirst("^A writer on nine keys: [^.]*\\. ", "")));
+      } else if (heading.equals("Terms")) {
+        parts.put(heading, new Part(words.replaceAll("Ahead of the calls .*", "").strip()));
       } else if (heading.startsWith("Promise ")) {
         String number = heading.replaceAll("Promise (\\d+):.*", "$1");
         parts.put(number, new Part(words.replaceFirst("^`[^`]*`: ", "")));
@@ -59,7 +61,8 @@ final class Doc {
       Part part = entry.getValue();
       int from = 0;
       for (int i = 1; i <= part.words.length(); i++) {
-        boolean ends = i == part.words.length() || part.words.charAt(i) == ' ' && ".;".indexOf(part.words.charAt(i - 1)) >= 0;
+        boolean ends = i == part.words.length()
+            || part.words.charAt(i) == ' ' && ".;".indexOf(part.words.charAt(i - 1)) >= 0;
         if (ends) {
           if (!anyQuoted(part, from, i)) {
             found.add(entry.getKey() + ": " + part.words.substring(from, i));

@@ -3,7 +3,7 @@ import java.nio.file.Path;
 
 /**
  * Each sentence of the document that names a boundary case has a test of its own here, under its own words. A clause of
- * the promises or of the Terms that no test quotes makes this test fail.
+ * the Terms or of a promise that no test quotes makes this test fail.
  */
 public final class EdgesTest {
   public static void main(String[] args) throws IOException {
@@ -14,7 +14,7 @@ public final class EdgesTest {
     WordsEdges.all(edges);
     PressingEdges.all(edges);
     PressesEdges.all(edges);
-    Check.due("the Terms and 36 promises were read", doc.size(), 37);
+    Check.due("what it is, the Terms and 36 promises were read", doc.size(), 38);
     for (String clause : doc.unquoted()) {
       Check.due("tests of: " + clause, 0, 1);
     }

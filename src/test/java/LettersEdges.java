@@ -133,8 +133,8 @@ final class LettersEdges {
 
   private static void besideOfNone() {
     NineKeys x = new NineKeys();
-    int[][] none = {{0, 1}, {1, 0}, {9, 10}, {10, 9}, {-2, 1}, {1, -2}, {0, 3}, {3, 0}, {7, 10}, {10, 7}, {9, 12}, {12, 9},
-        {0, 0}, {10, 11}, {-1, 0}, {MIN, MAX}, {MAX, MIN}, {MIN, 1}, {9, MAX}, {MAX, MAX - 1}, {MIN, MIN + 1}};
+    int[][] none = {{0, 1}, {1, 0}, {9, 10}, {10, 9}, {-2, 1}, {1, -2}, {0, 3}, {3, 0}, {7, 10}, {10, 7},
+        {9, 12}, {12, 9}, {0, 0}, {10, 11}, {-1, 0}, {MIN, MAX}, {MAX, MIN}, {MIN, 1}, {9, MAX}, {MAX, MAX - 1}, {MIN, MIN + 1}};
     for (int[] n : none) {
       Check.due("beside " + n[0] + " " + n[1], x.beside(n[0], n[1]), false);
     }

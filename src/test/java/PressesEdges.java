@@ -56,7 +56,8 @@ final class PressesEdges {
     edges.test("if several rows have so many, of the one that the least WORD has", PressesEdges::clashingOfEquals);
     edges.test("-1: there is none such", PressesEdges::clashingOfNone);
     edges.of("36");
-    edges.test("How many pairs of WORDS that are THERE have the same KEYS (by GUESS)", PressesEdges::clashesOfNoneToForty);
+    edges.test("How many pairs of WORDS that are THERE have the same KEYS (by GUESS)",
+        PressesEdges::clashesOfNoneToForty);
   }
 
   // ---- 28 to 30
@@ -298,6 +299,14 @@ final class PressesEdges {
     x = withText("ad", "cab");
     x.drop(0);
     Check.due("without the gone", x.best(), 4);
+    x = withText("aaaaaaaaaa", "bbbbbbbbbb");
+    Check.due("two of ten", x.best(), 2 * 20);
+    x.wipe();
+    x.put(1);
+    Check.due("of the text as it is now", x.best(), 20);
+    x = withText("ad", "cab");
+    Check.due("two", x.best(), 3 + 4);
+    x.drop(0);
     x.drop(1);
     Check.due("all being gone", x.best(), 0);
   }
@@ -377,6 +386,15 @@ final class PressesEdges {
     Check.due("f has another key", x.letter(5, 0) != 2, true);
     Check.due("then c", x.swap(), 2);
     Check.due("then nothing", x.swap(), 0);
+    // With x on KEY 9 too, z is third there, and second on KEY 8, which v leaves.
+    x = withText("z");
+    x.deal(23, 9);
+    Check.due("z on another key", x.swap(), 1);
+    keysAre(x, "11122233344455566677798998");
+    // c comes ahead of d, twice from 3 to 1, once from 1 to 2; a change with d itself would win less.
+    x = withText("c", "c", "d", "g", "j", "m", "p", "s", "v", "y");
+    Check.due("what others lose counts", x.swap(), 3);
+    keysAre(x, "11221233344455566677788899");
     x = withText("zy", "zy", "zyz");
     int before = x.taps();
     int won = x.swap();
@@ -392,7 +410,7 @@ final class PressesEdges {
     x = withText("c");
     Check.due("two less", x.swap(), 2);
     keysAre(x, "11212233344455566677788899");
-    // a may change with g and those behind it, b with d already; a with d, e or f would put it on e's key, or e behind c.
+    // b may change with d already, but a with g at first: with d, e or f it would come to e's key, or e to stand behind c.
     x = withText("eab");
     Check.due("two less, the least a ahead of the least b", x.swap(), 2);
     keysAre(x, "31122213344455566677788899");
@@ -436,7 +454,8 @@ final class PressesEdges {
   /** Forty words with the keys 1 2 3 4. */
   private static void fortyAlike(NineKeys x) {
     for (int n = 0; n < 40; n++) {
-      String word = "" + (char) ('a' + n % 3) + (char) ('d' + n / 3 % 3) + (char) ('g' + n / 9 % 3) + (n < 27 ? "j" : "k");
+      String start = "" + (char) ('a' + n % 3) + (char) ('d' + n / 3 % 3) + (char) ('g' + n / 9 % 3);
+      String word = start + (n < 27 ? "j" : "k");
       Check.due("word " + n, Check.add(x, word, 1), n);
     }
   }

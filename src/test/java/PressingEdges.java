@@ -360,6 +360,13 @@ final class PressingEdges {
     Check.due("no newcomers by that", x.many(6), 2);
     Check.due("pressed stays", x.many(4), 2);
     Check.due("no word by that", x.many(0), 4);
+    x = new NineKeys();
+    Check.third(x, "xy");
+    Check.third(x, "xy");
+    Check.add(x, "xy", 5);
+    Check.due("one that came by add ahead of its third time", Check.third(x, "xy"), 0);
+    Check.due("it is learnt", x.word(0, 1), 6);
+    Check.due("and doesn't come again", x.many(0), 1);
   }
 
   private static void thirdOfANewOne() {

@@ -1,7 +1,7 @@
 import java.util.ArrayList;
 import java.util.List;
 
-/** Calls that must change nothing: two objects are made alike, one of them is called, and both are looked at all over. */
+/** Calls that must change nothing: two objects are made alike, one is called, and both are looked at all over. */
 final class Still {
   interface Made {
     void on(NineKeys x);
@@ -18,8 +18,8 @@ final class Still {
   }
 
   /**
-   * Words 0 "ad", 1 "be", 2 "cab" that are there and 3 "q" that is gone, with pairs; THE PRESSED is the keys of 0 and 1;
-   * the newcomers are "xy" (twice) and "xz", and THE SPELT is "xy"; THE TEXT is 2 0.
+   * Words 0 "ad", 1 "be", 2 "cab" that are there and 3 "q" that is gone, with pairs; THE PRESSED is the keys of 0
+   * and 1; the newcomers are "xy" (twice) and "xz", and THE SPELT is "xy"; THE TEXT is 2 0.
    */
   static void usual(NineKeys x) {
     Check.add(x, "ad", 5);

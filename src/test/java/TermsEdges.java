@@ -6,6 +6,9 @@ final class TermsEdges {
   }
 
   static void all(Edges edges) {
+    edges.of("What it is");
+    edges.test("An object is used for at most 512 calls after it has been made; what later calls answer is free.",
+        TermsEdges::as512Calls);
     edges.of("Terms");
     lettersAndWords(edges);
     keysAndOffers(edges);
@@ -28,7 +31,8 @@ final class TermsEdges {
     edges.test("A row stands AHEAD of another one if it has the lesser LETTER where they are first unlike, or ends there",
         TermsEdges::rowsAhead);
     edges.test("THE CLOCK is a number, 0 at first", TermsEdges::clockAtFirst);
-    edges.test("A PAIR of WORDS (the one ahead, the one behind) has a COUNT; 0 if none was told", TermsEdges::pairUntold);
+    edges.test("A PAIR of WORDS (the one ahead, the one behind) has a COUNT; 0 if none was told",
+        TermsEdges::pairUntold);
     edges.test("150 PAIRS have a COUNT above 0 at most", TermsEdges::pairsAtMost);
     edges.test("THE SPELT is a row of at most 10 LETTERS", TermsEdges::speltAtMost);
     edges.test("THE PRESSED one of at most 12 KEYS", TermsEdges::pressedAtMost);
@@ -47,9 +51,11 @@ final class TermsEdges {
     edges.test("MEETS a WORD by GUESS or SLIDE if it is THE KEYS of it by that kind", TermsEdges::meetsByGuessOrSlide);
     edges.test("by SHORTER if THE KEYS (by GUESS) begin with it, and it isn't empty", TermsEdges::meetsByShorter);
     edges.test("each with a PRICE (0 to 100,000; 100,000 at first)", TermsEdges::pricesAtFirst);
-    edges.test("0 BESIDE: THE KEYS come from the row by one KEY becoming one that is BESIDE it", TermsEdges::slipBeside);
+    edges.test("0 BESIDE: THE KEYS come from the row by one KEY becoming one that is BESIDE it",
+        TermsEdges::slipBeside);
     edges.test("1 LEFT OUT: by a KEY being put in somewhere", TermsEdges::slipLeftOut);
-    edges.test("2 TWICE: by one KEY of two that follow each other and are alike being taken away", TermsEdges::slipTwice);
+    edges.test("2 TWICE: by one KEY of two that follow each other and are alike being taken away",
+        TermsEdges::slipTwice);
     edges.test("(By GUESS and SLIDE alone, not by SHORTER.)", TermsEdges::slipsNotByShorter);
     edges.test("WORDS that are THERE and that it MEETS, at the price 0", TermsEdges::metAtNoPrice);
     edges.test("or by one SLIP whose PRICE is the limit or less", TermsEdges::limits);
@@ -60,10 +66,12 @@ final class TermsEdges {
 
   private static void presses(Edges edges) {
     edges.test("TAP: the POSITIONS of its LETTERS together", TermsEdges::tapPositions);
-    edges.test("one more for each LETTER whose KEY is that of the LETTER ahead of it in the WORD", TermsEdges::tapOnTheKey);
+    edges.test("one more for each LETTER whose KEY is that of the LETTER ahead of it in the WORD",
+        TermsEdges::tapOnTheKey);
     edges.test("and one more (the blank)", TermsEdges::tapBlank);
     edges.test("GUESS, SLIDE: how many THE KEYS are", TermsEdges::guessAndSlide);
-    edges.test("how many OFFERS of these KEYS, within the limit -1, stand ahead of it, and one more", TermsEdges::offersAhead);
+    edges.test("how many OFFERS of these KEYS, within the limit -1, stand ahead of it, and one more",
+        TermsEdges::offersAhead);
     edges.test("SHORTER: if it is the first OFFER for some of the rows that THE KEYS (by GUESS) begin with",
         TermsEdges::shorterFirst);
     edges.test("how many KEYS the shortest of these has, and one more; else as GUESS", TermsEdges::shorterElse);
@@ -72,7 +80,8 @@ final class TermsEdges {
     edges.test("and one more for each whose kind isn't that of the one ahead of it (of the first: isn't TAP)",
         TermsEdges::spentByChanges);
     edges.test("Nothing is learnt by that.", TermsEdges::spentTeachesNothing);
-    edges.test("TAP PRESSES of THE TEXT: the PRESSES of its WORDS (that are THERE) by TAP together", TermsEdges::tapsOfThere);
+    edges.test("TAP PRESSES of THE TEXT: the PRESSES of its WORDS (that are THERE) by TAP together",
+        TermsEdges::tapsOfThere);
   }
 
   private static void learning(Edges edges) {
@@ -110,6 +119,21 @@ final class TermsEdges {
       Check.add(x, word, 1);
     }
     return x;
+  }
+
+  /** Two calls ahead, 127 times four, and two behind: the last one is the 512th. */
+  private static void as512Calls() {
+    NineKeys x = new NineKeys();
+    x.spell(0, -1, 0, 0, 0);
+    x.add(1);
+    for (int n = 1; n <= 127; n++) {
+      Check.due("press", x.press(1), 1);
+      Check.due("take", x.take(1, -1, 0), 0);
+      Check.due("clock", x.many(7), n + 1);
+      Check.due("wipe", x.wipe(), 1);
+    }
+    Check.due("count", x.word(0, 1), 128);
+    Check.due("the 512th call", x.word(0, 2), 128);
   }
 
   // ---- 1: letters, keys, words
@@ -154,7 +178,8 @@ final class TermsEdges {
 
   private static void noWrapAround() {
     NineKeys x = new NineKeys();
-    int[][] not = {{3, 4}, {6, 7}, {1, 3}, {4, 6}, {7, 9}, {1, 7}, {2, 8}, {3, 9}, {1, 9}, {1, 5}, {3, 5}, {5, 5}, {1, 1}};
+    int[][] not = {{3, 4}, {6, 7}, {1, 3}, {4, 6}, {7, 9}, {1, 7}, {2, 8}, {3, 9}, {1, 9}, {1, 5}, {3, 5},
+        {5, 5}, {1, 1}};
     for (int[] n : not) {
       Check.due("beside " + n[0] + " " + n[1], x.beside(n[0], n[1]), false);
       Check.due("beside " + n[1] + " " + n[0], x.beside(n[1], n[0]), false);
@@ -515,7 +540,8 @@ final class TermsEdges {
   private static void slipTwice() {
     slipsAre("az", 2, "119 199", "129 19 191 1199 1119 189 1991 919");
     slipsAre("a", 2, "11", "12 21 111 1 22");
-    slipsAre("dmpsvyadgj", 2, "22567891234 25567891234 25678912344", "25678912343 12567891234 255567891234 225567891234");
+    slipsAre("dmpsvyadgj", 2, "22567891234 25567891234 25678912344",
+        "25678912343 12567891234 255567891234 225567891234");
     NineKeys x = with("aa");
     x.price(2, 10);
     Check.press(x, "111");
@@ -1082,6 +1108,17 @@ final class TermsEdges {
     }
     newcomerIs(y, "a", 0);
     Check.due("new again", Check.third(y, "a"), 101);
+    // None goes for one that comes where another one became a word.
+    NineKeys z = new NineKeys();
+    for (int n = 1; n <= 8; n++) {
+      Check.third(z, Check.name(n));
+    }
+    Check.third(z, Check.name(4));
+    Check.third(z, Check.name(4));
+    Check.third(z, Check.name(9));
+    for (int n = 1; n <= 9; n++) {
+      newcomerIs(z, Check.name(n), n == 4 ? 0 : 1);
+    }
   }
 
   // ---- refusals
